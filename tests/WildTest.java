@@ -116,9 +116,12 @@ public final class WildTest {
         Check.same("all worlds", 46656L * 4096, all);
         // Of hour 0 one who is late tells nothing, so that more is left of it.
         Check.same("next of all", 1, x.next());
+        // Five choices each, all of which go together: as many branches as can be.
         for (int a = 0; a < 4; a++) {
-            x.tell(a, 7 + a, a);
+            x.tell(a, 7 + a, 0);
         }
+        Check.same("worlds of 625 branches", worldsByPersons(x), x.worlds());
+        Check.tellings(x, "a 7;b 8 c;f 9 d;g 10 c d;");
         long sumOfTimes = 0;
         for (int t = 0; t < 36; t++) {
             sumOfTimes += x.worldsOf(1, t);
@@ -140,5 +143,48 @@ public final class WildTest {
             Check.same("left of " + hour, most, x.left(2, hour));
         }
         Check.same("there is a next", true, x.next() >= 0);
+        Check.same("worlds by timetables and each person's ways", worldsByPersons(x), x.worlds());
+        x.tell(0, 20, 3);
+        x.tell(3, 21, 0);
+        Check.same("and with more tellings", worldsByPersons(x), x.worlds());
+    }
+
+    /** For each three timetables the persons tell without one another: their ways that fit are multiplied. */
+    private static long worldsByPersons(WindowTurns x) {
+        long sum = 0;
+        for (int c = 0; c < 36; c++) {
+            for (int d = 0; d < 36; d++) {
+                for (int e = 0; e < 36; e++) {
+                    long product = 1;
+                    for (int a = 0; a < 4; a++) {
+                        product *= fittingWays(x, a, new int[] {c, d, e});
+                    }
+                    sum += product;
+                }
+            }
+        }
+        return sum;
+    }
+
+    private static int fittingWays(WindowTurns x, int a, int[] times) {
+        int found = 0;
+        for (int way = 0; way < 8; way++) {
+            boolean fits = true;
+            for (int i = 0; i < x.count(2) && fits; i++) {
+                fits = x.telling(i, 0) != a || x.telling(i, 2) == told(x, way, times, x.telling(i, 1));
+            }
+            found += fits ? 1 : 0;
+        }
+        return found;
+    }
+
+    private static int told(WindowTurns x, int way, int[] times, int hour) {
+        int told = 0;
+        for (int k = 0; k < 3; k++) {
+            boolean isTold = x.passes(k, times[k], way == 1 ? hour - 1 : hour) == 1;
+            isTold = way == 2 + 2 * k ? false : way == 3 + 2 * k || isTold;
+            told += isTold ? 1 << k : 0;
+        }
+        return told;
     }
 }

@@ -638,7 +638,6 @@ public final class WindowTurns {
         final long[] personNames = new long[MOST_PERSONS];
         final int[] ways = new int[MOST_PERSONS];
         final int[] looked = new int[MOST_PERSONS];
-        final int[] wanted = new int[MOST_PERSONS];
         final int[] wants = new int[MOST_PERSONS * HOURS];
         final int[] turns = new int[HOURS];
         final Tellings told = new Tellings();
@@ -651,7 +650,6 @@ public final class WindowTurns {
             kinds = 0;
             persons = 0;
             Arrays.fill(looked, 0);
-            Arrays.fill(wanted, 0);
             Arrays.fill(wants, 0);
             Arrays.fill(turns, NONE);
             told.size = 0;
@@ -667,7 +665,6 @@ public final class WindowTurns {
             copyLongs(other.personNames, personNames);
             copyRow(other.ways, ways);
             copyRow(other.looked, looked);
-            copyRow(other.wanted, wanted);
             copyRow(other.wants, wants);
             copyRow(other.turns, turns);
             told.copyFrom(other.told);
@@ -1038,6 +1035,8 @@ public final class WindowTurns {
     private static final class HouseReader {
         final Cursor cursor;
         final House fresh = new House();
+        // The hours of which each person's want was told, as bits.
+        private final int[] wanted = new int[MOST_PERSONS];
 
         HouseReader(Cursor cursor) {
             this.cursor = cursor;
@@ -1046,32 +1045,36 @@ public final class WindowTurns {
         /** How many lines, or NONE with a fault. */
         int readAll() {
             fresh.clear();
+            Arrays.fill(wanted, 0);
             int lines = 0;
             for (int i = 0; i < TAPE_BYTES && cursor.sort() != Tokens.END; i++) {
-                if (!readLine() || !cursor.readSemicolon()) {
+                boolean isRead = false;
+                switch (cursor.sort()) {
+                    case Tokens.KIND:
+                        isRead = readKindLine();
+                        break;
+                    case Tokens.PERSON:
+                        isRead = readPersonLine();
+                        break;
+                    case Tokens.LOOKS:
+                        isRead = readLooksLine();
+                        break;
+                    case Tokens.TURN:
+                        isRead = readTurnLine();
+                        break;
+                    case Tokens.WANTS:
+                        isRead = readWantsLine();
+                        break;
+                    default:
+                        cursor.refuse(NO_TOKEN);
+                        break;
+                }
+                if (!isRead || !cursor.readSemicolon()) {
                     return NONE;
                 }
                 lines++;
             }
             return lines;
-        }
-
-        private boolean readLine() {
-            switch (cursor.sort()) {
-                case Tokens.KIND:
-                    return readKindLine();
-                case Tokens.PERSON:
-                    return readPersonLine();
-                case Tokens.LOOKS:
-                    return readLooksLine();
-                case Tokens.TURN:
-                    return readTurnLine();
-                case Tokens.WANTS:
-                    return readWantsLine();
-                default:
-                    cursor.refuse(NO_TOKEN);
-                    return false;
-            }
         }
 
         private boolean readKindLine() {
@@ -1201,7 +1204,7 @@ public final class WindowTurns {
         private boolean readWantsLine() {
             cursor.index++;
             int a = cursor.readPerson(fresh);
-            int hour = a == NONE ? NONE : readNewHour(fresh.wanted, a);
+            int hour = a == NONE ? NONE : readNewHour(wanted, a);
             int want = hour == NONE ? NONE : cursor.readNumber(0, 99);
             if (want == NONE) {
                 return false;
@@ -1419,15 +1422,12 @@ public final class WindowTurns {
 
         private boolean isLikeNew(int choice) {
             for (int k = 0; k < MOST_KINDS; k++) {
-                if (choiceTime(choice, k) != choiceTime(choices, k)) {
+                int index = choice * MOST_KINDS + k;
+                if (longAt(choiceTimes, index) != longAt(choiceTimes, choices * MOST_KINDS + k)) {
                     return false;
                 }
             }
             return true;
-        }
-
-        private long choiceTime(int choice, int k) {
-            return longAt(choiceTimes, choice * MOST_KINDS + k);
         }
 
         private long fittingBy(int a, int way, int k) {
@@ -1459,7 +1459,7 @@ public final class WindowTurns {
                 return;
             }
             for (int k = 0; k < MOST_KINDS; k++) {
-                long times = branchTime(i, k) & choiceTime(choice, k);
+                long times = branchTime(i, k) & longAt(choiceTimes, choice * MOST_KINDS + k);
                 if (times == 0) {
                     return;
                 }
