@@ -4,6 +4,11 @@ import java.util.NoSuchElementException;
 
 /** What the tests share: feeding texts, comparing answers, counting what is wrong. */
 final class Check {
+    /** A house with something of each sort of line. */
+    static final String RICH = "kind c 1 3 by 2 1;kind d 2 2 by 2 0;person a;person b true late;person f hides c;"
+            + "looks a 1;looks a 2;looks b 0;turn 0 a;turn 29 b;turn 4 f;turn 6 f;wants a 29 7;wants a 0 3;wants b 0 2;"
+            + "wants f 4 50;wants f 6 49;";
+
     interface Call {
         long answer();
     }

@@ -7,9 +7,6 @@ public final class EdgeCallTest {
     private static final int MAX = Integer.MAX_VALUE;
     private static final int[] FAR = {MIN, MIN + 1, -65, -33, -32, -2, -1, 64, 256, 1 << 30, MAX};
     private static final String TRUTHS = "kind c 2 2 by 2 0;kind d 3 3 by 3 0;kind e 1 1 by 1 0;";
-    private static final String RICH = "kind c 1 3 by 2 1;kind d 2 2 by 2 0;person a;person b true late;person f hides c;"
-            + "looks a 1;looks a 2;looks b 0;turn 0 a;turn 29 b;turn 4 f;turn 6 f;wants a 29 7;wants a 0 3;wants b 0 2;"
-            + "wants f 4 50;wants f 6 49;";
 
     private EdgeCallTest() {
     }
@@ -73,12 +70,12 @@ public final class EdgeCallTest {
                     WindowTurns::rules, x -> x.table(0), x -> x.table(1), x -> x.table(-1), x -> x.drawn(1, 1) ? 1 : 0,
                     x -> x.drawn(0, 1) ? 1 : 0, x -> x.drawn(41, 1) ? 1 : 0);
             for (ToLongFunction<WindowTurns> call : calls) {
-                WindowTurns x = Check.of(RICH);
+                WindowTurns x = Check.of(Check.RICH);
                 Check.feed(x, tape);
                 call.applyAsLong(x);
                 Check.same("bytes left of " + tape, 0, x.count(4));
             }
-            WindowTurns x = Check.of(RICH);
+            WindowTurns x = Check.of(Check.RICH);
             Check.feed(x, tape);
             lookAll(x);
             x.tell(0, 0, 0);
