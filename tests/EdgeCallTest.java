@@ -27,6 +27,7 @@ public final class EdgeCallTest {
         bothOfTheSame();
         liarsOfFour();
         nextOfLikeOnes();
+        nextBehindTheLastHour();
         Check.end();
     }
 
@@ -479,5 +480,17 @@ public final class EdgeCallTest {
         Check.same("by d three of four are left, by c two", 0, two.next());
         WindowTurns other = Check.of("kind c 4 4;kind d 2 2;person a hides d;person b hides c;");
         Check.same("b's are less", 100, other.next());
+    }
+    // NEXT goes by the HOURS 0 to 29 alone: by 30, if it were one, fewer would be left than by any of them
+    private static void nextBehindTheLastHour() {
+        WindowTurns x = Check.of("kind c 7 8;person a true;");
+        // Told not to pass, but for the hours of 7 and 2, 7 and 3, 8 and 4, 8 and 6: no two of these have one together.
+        for (int hour : new int[] {0, 1, 5, 7, 8, 11, 13, 15, 18, 19, 21, 25, 26, 27, 29}) {
+            x.tell(0, hour, 0);
+        }
+        Check.same("four worlds", 4, x.worlds());
+        Check.same("left of 2", 3, x.left(0, 2));
+        Check.same("left of 29", 4, x.left(0, 29));
+        Check.same("next", 2, x.next());
     }
 }
